@@ -2,11 +2,13 @@ import java.util.Random;
 
 /** The same calls to AirByYard and to Model, by seeds that are always the same; arguments: runs, first seed. */
 final class ModelTest {
+    private static final int MOST_CALLS = 512, MOST_AT_ONCE = 101;
     private final Random random;
     private final AirByYard x = new AirByYard();
     private final Model m = new Model();
     private final StringBuilder told = new StringBuilder();
     private int wrong = 0;
+    private int calls = 0;
 
     private ModelTest(long seed) { random = new Random(seed); }
 
@@ -28,7 +30,7 @@ final class ModelTest {
         for (int b = 0; b < birds; b++) bird();
         if (random.nextInt(3) > 0) estuary();
         boolean few = random.nextBoolean();
-        for (int c = 0; c < 250 && wrong == 0; c++) {
+        while (calls < MOST_CALLS - MOST_AT_ONCE && wrong == 0) {
             if (random.nextInt(30) == 0) estuary();
             else if (few && random.nextInt(3) > 0) ask();
             else any();
@@ -45,6 +47,7 @@ final class ModelTest {
     }
 
     private void due(String call, long got, long want) {
+        calls++;
         told.append(call).append(" -> ").append(got).append('\n');
         if (got != want) {
             wrong++;
