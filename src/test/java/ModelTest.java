@@ -13,12 +13,13 @@ final class ModelTest {
     private ModelTest(long seed) { random = new Random(seed); }
 
     public static void main(String[] args) {
-        int runs = args.length > 0 ? Integer.parseInt(args[0]) : 150;
+        int runs = args.length > 0 ? Integer.parseInt(args[0]) : 250;
         long first = args.length > 1 ? Long.parseLong(args[1]) : 1;
         int wrong = 0;
         for (long seed = first; seed < first + runs; seed++) {
             ModelTest t = new ModelTest(seed);
             t.run();
+            if (wrong == 0 && t.wrong > 0) System.out.println("seed " + seed + ":\n" + t.told);
             wrong += t.wrong;
         }
         System.out.println("ModelTest: " + (wrong == 0 ? "all answers are as due" : wrong + " answers are not as due"));
@@ -35,7 +36,6 @@ final class ModelTest {
             else if (few && random.nextInt(3) > 0) ask();
             else any();
         }
-        if (wrong > 0) System.out.println(told);
     }
 
     private int n(int a, int b) { return a + random.nextInt(b - a + 1); }
