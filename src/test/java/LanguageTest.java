@@ -1,10 +1,13 @@
 import java.io.IOException;
+import java.lang.reflect.Array;
 import java.lang.reflect.Constructor;
 import java.lang.reflect.Field;
 import java.lang.reflect.Method;
 import java.lang.reflect.Modifier;
 import java.nio.file.Files;
 import java.nio.file.Path;
+import java.util.IdentityHashMap;
+import java.util.Map;
 import java.util.Set;
 import java.util.TreeSet;
 
@@ -27,13 +30,17 @@ final class LanguageTest {
         "int image()", "int undo()", "int act(int,int,int)", "int trace(int)", "int taken(int,int)", "int count(int)",
         "int tape(int,int,int)", "int item(int,int,long)", "long read(int,int)", "int shift(int,int,int,int,int)",
     };
+    /** The room of all calls of a run, as rule 12 and the project count it. */
+    private static final int MOST_OBJECTS = 600_000, MOST_ELEMENTS = 7_300_000, MOST_LINES = 60;
     private static int wrong = 0;
 
-    public static void main(String[] args) throws IOException {
+    public static void main(String[] args) throws IOException, IllegalAccessException {
         String source = Files.readString(SOURCE);
         words(source);
+        lengths(source);
         face();
         names();
+        room();
         System.out.println("LanguageTest: " + (wrong == 0 ? "the rules are kept" : wrong + " rules are broken"));
         if (wrong != 0) System.exit(1);
     }
@@ -61,6 +68,46 @@ final class LanguageTest {
             if (line.contains("new ") && kept) made++;
         }
         say(made == all, "all is made once, in fields and constructors");
+    }
+
+    /** A method ends at the brace that stands as far in as its head. */
+    private static void lengths(String source) {
+        String[] lines = source.split("\n");
+        for (int i = 0; i < lines.length; i++) {
+            if (!lines[i].matches("( {4}| {8})[\\w\\[\\] ]+\\([^;]*\\) \\{") || lines[i].matches(" +(if|for|while|switch) .*")) continue;
+            String end = lines[i].substring(0, lines[i].indexOf(lines[i].strip())) + "}";
+            int j = i;
+            while (j < lines.length && !lines[j].equals(end)) j++;
+            say(j - i < MOST_LINES, lines[i].strip() + " has " + (j - i + 1) + " lines");
+        }
+    }
+
+    /** What an object holds when it is new is all that it ever makes, for no call makes any. */
+    private static void room() throws IllegalAccessException {
+        int[] sizes = {0, 0};
+        measure(new AirByYard(), new IdentityHashMap<>(), sizes);
+        say(sizes[0] <= MOST_OBJECTS / 100, sizes[0] + " objects");
+        say(sizes[1] <= MOST_ELEMENTS / 100, sizes[1] + " fields and elements");
+        int[] later = {0, 0};
+        measure(Witness.full(), new IdentityHashMap<>(), later);
+        say(later[0] == sizes[0] && later[1] == sizes[1], "a full one has " + later[0] + " objects and " + later[1]
+            + " fields and elements, a new one " + sizes[0] + " and " + sizes[1]);
+    }
+
+    private static void measure(Object o, Map<Object, Object> met, int[] sizes) throws IllegalAccessException {
+        if (o == null || met.put(o, o) != null) return;
+        sizes[0]++;
+        if (o.getClass().isArray()) {
+            sizes[1] += Array.getLength(o);
+            for (int i = 0; i < Array.getLength(o) && o instanceof Object[]; i++) measure(Array.get(o, i), met, sizes);
+            return;
+        }
+        for (Field f : o.getClass().getDeclaredFields()) {
+            if (Modifier.isStatic(f.getModifiers())) continue;
+            sizes[1]++;
+            f.setAccessible(true);
+            if (!f.getType().isPrimitive()) measure(f.get(o), met, sizes);
+        }
     }
 
     private static void face() {
